@@ -1439,9 +1439,12 @@ public final class ThimbleLaw {
         private void dryAll() {
             for (int one = 0; one < city.people; one++) {
                 for (int kind = 0; kind < KINDS; kind++) {
-                    judge.look(city, one, kind);
-                    int dried = judge.dries(ruling(), city.brims);
-                    city.setAmount(one, kind, city.amount(one, kind) - dried);
+                    int drops = city.amount(one, kind);
+                    // Whatever the law says, nothing stays nothing: it need not be asked.
+                    if (drops > 0) {
+                        judge.look(city, one, kind);
+                        city.setAmount(one, kind, drops - judge.dries(ruling(), city.brims));
+                    }
                 }
             }
         }
@@ -1572,9 +1575,11 @@ public final class ThimbleLaw {
             int bestDrops = 0;
             for (int set = 1; set < 1 << city.deeds.count; set++) {
                 int count = Integer.bitCount(set);
+                if (count < bestCount || !staysWithin(city, one, set)) {
+                    continue;
+                }
                 int drops = dropsOf(city.deeds, set, 0) + dropsOf(city.deeds, set, 1) + dropsOf(city.deeds, set, 2);
-                boolean better = count > bestCount || count == bestCount && drops > bestDrops;
-                if (better && staysWithin(city, one, set)) {
+                if (count > bestCount || drops > bestDrops) {
                     best = set;
                     bestCount = count;
                     bestDrops = drops;
@@ -1735,7 +1740,7 @@ public final class ThimbleLaw {
             }
             int best = 0;
             int most = 0;
-            for (int drops = 0; drops <= MOST_DROPS; drops++) {
+            for (int drops = 0; drops <= MOST_DROPS && most <= greatest - least; drops++) {
                 int unlike = unlikeCounts(drops, least, greatest);
                 if (unlike > most) {
                     best = drops;
