@@ -217,6 +217,14 @@ final class AheadTest {
                 x.way(a, b, 50);
             }
         }
+        due.is("31 all alike", x.round(NONE), 300);
+        for (int a = 0; a < 6; a++) {
+            for (int b = a + 1; b < 6; b++) {
+                x.way(a, b, 99);
+            }
+        }
+        due.is("31 the longest of all", x.round(NONE), 594);
+        due.is("31 the lowest next", x.round(4), 5);
         int[] houses = {3, 1, 5, 2, 4};
         int here = 0;
         for (int next : houses) {

@@ -49,6 +49,11 @@ final class CounselTest {
         due.is("33 none full", x.shrunk(0), 9);
         due.is("33 none full", x.shrunk(1), 91);
         due.is("33 none full", x.shrunk(2), 99);
+        x.year(98, 0);
+        due.is("33 99 alone", x.shrunk(1), 99);
+        due.is("33 99 alone", x.shrunk(2), 99);
+        x.year(NONE, 0);
+        x.year(90, 0);
         x.year(98, 1);
         due.is("33 both years", x.shrunk(1), 91);
         due.is("33 both years", x.shrunk(2), 98);
@@ -111,7 +116,10 @@ final class CounselTest {
         due.is("35 t", x.against(0, -1, true), NONE);
         due.is("35 t", x.against(0, 1000, true), NONE);
         due.is("35 no tears", x.against(0, 0, true), 0);
-        due.is("35 nobody", x.against(1, 1, true), NONE);
+        x.one(0, 0, 0);
+        x.deed(1, 0, 30);
+        due.is("35 lies alone", x.against(1, 10, false), 1);
+        due.is("35 nobody", x.against(2, 1, true), NONE);
         due.is("35 nobody", x.against(-1, 1, false), NONE);
     }
 
@@ -158,6 +166,8 @@ final class CounselTest {
         due.is("37 the most", x.worst(), 2);
         x.weep(0, 99);
         due.is("37 tears don't count", x.worst(), 2);
+        x.deed(0, 0, 66);
+        due.is("37 lies do", x.worst(), 0);
     }
 
     private static void promise38MoreDents() {
@@ -170,6 +180,12 @@ final class CounselTest {
         due.is("38 no more", x.moreDents(0), 0);
         x.deed(0, 2, 1);
         due.is("38 over", x.moreDents(0), NONE);
+        x.undo();
+        x.deed(0, 0, 48);
+        x.deed(0, 1, 34);
+        due.is("38 in each kind", x.moreDents(0), 0);
+        x.deed(0, 1, 1);
+        due.is("38 over in one", x.moreDents(0), NONE);
         due.is("38 nobody", x.moreDents(1), NONE);
         due.is("38 nobody", x.moreDents(-1), NONE);
         x.one(0, 9, 0);

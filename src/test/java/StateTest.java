@@ -173,7 +173,11 @@ final class StateTest {
         due.is("47 nobody", x.heaviest(), 0);
         x.one(0, 0, 0);
         x.one(0, 0, 0);
-        x.deed(0, 2, 5);
+        x.deed(1, 0, 1);
+        due.is("47 lies", x.heaviest(), 0);
+        x.deed(0, 2, 1);
+        due.is("47 like ones", x.heaviest(), 0);
+        x.deed(0, 2, 4);
         due.is("47", x.heaviest(), 2);
         x.deed(0, 1, 3);
         x.deed(1, 1, 2);

@@ -137,12 +137,13 @@ final class StepsTest {
         due.is("15 all of it", x.shrink(20), NONE);
         due.is("15 nothing", x.shrink(0), NONE);
         due.is("15 below", x.shrink(-1), NONE);
-        due.is("15 leaves 1", x.shrink(19), 1);
+        due.is("15 least", x.shrink(1), 19);
+        due.is("15 leaves 1", x.shrink(18), 1);
         due.is("15 no more", x.shrink(1), NONE);
         x.standard(99);
         due.is("15 99", x.shrink(99), NONE);
         due.is("15 98", x.shrink(98), 1);
-        due.is("15 steps", x.about(3), 2);
+        due.is("15 steps", x.about(3), 3);
     }
 
     private static void promise16Day() {

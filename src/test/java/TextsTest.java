@@ -166,6 +166,15 @@ final class TextsTest {
         fault("bend 0;\r\n", 1, 7);
         fault("dries 1_2;", 1, 7);
         fault("dries \u00e9;", 1, 6);
+        fault("dries if 1<=", 1, 12);
+        fault("dries if 1>=", 1, 12);
+        fault("dries if 1<", 1, 11);
+        for (String letter : new String[] {"a", "z", "A", "Z"}) {
+            fault("dries day" + letter + ";", 1, 6);
+        }
+        for (String sign : new String[] {"@", "[", "`", "{", ":", ","}) {
+            fault("dries day" + sign + ";", 1, 9);
+        }
         fault("who 1;", 1, 0);
         fault("of;", 1, 0);
     }
