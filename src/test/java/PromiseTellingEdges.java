@@ -163,6 +163,17 @@ final class PromiseTellingEdges {
             // Back at two TEXTS the tape that stayed can be read.
             e.then("tape fine 4;", "back()");
             e.in("text()", 2);
+            // What was read up to a FAULT is no part of the next TEXT.
+            e.life("one(0, 0, 0)", "tape dries 9;day 1;day 2;weep 1 by 0;?", "text()", "tape day 1;errs 5;", "text()", "by(0)");
+            e.in("drops(0, 0, 1)", 1);
+            e.in("drops(0, 0, 2)", 5);
+            e.in("played(0)", NONE);
+            e.in("is(0)", 1);
+            e.in("drops(0, 3, 0)", 0);
+            String ones = "1+".repeat(140);
+            e.life("one(0, 0, 0)", "tape fine " + ones + "?", "text()", "tape fine " + ones + "?", "text()",
+                "tape fine " + ones + "1;", "text()", "by(0)");
+            e.in("drops(0, 0, 3)", 141);
         });
     }
 

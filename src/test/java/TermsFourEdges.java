@@ -169,6 +169,11 @@ final class TermsFourEdges {
             e.asked("moreDents(0)", 0);
             e.then("deed(0, 2, 1)");
             e.refused(NONE, "moreDents(0)");
+            // Each of KINDS 0 .. 2 counts: 34 lies are three thimbles of 12, 31 drinks two of 16.
+            e.life("one(0, 0, 0)", "deed(0, 0, 34)");
+            e.asked("moreDents(0)", 8);
+            e.then("deed(0, 1, 31)");
+            e.asked("moreDents(0)", 4);
             // ROOM is 1 at least.
             e.life("one(0, 0, 0)", "standard(1)", "deed(0, 2, 1)");
             e.asked("moreDents(0)", 9);
@@ -178,7 +183,11 @@ final class TermsFourEdges {
             e.life("one(0, 0, 0)", "deed(0, 2, 15)");
             e.asked("cases(15)", 0);
             e.out("cases(14)", 1);
-            e.then("deed(0, 2, 10)");
+            e.then("deed(0, 2, 5)");
+            e.asked("cases(20)", 0);
+            e.asked("cases(21)", 0);
+            e.out("cases(19)", 1);
+            e.then("deed(0, 2, 5)");
             e.asked("cases(24)", 0);
             e.out("cases(25)", 1);
             e.asked("cases(20)", 0);
@@ -189,6 +198,11 @@ final class TermsFourEdges {
             e.refused(NONE, "cases(0)", "cases(100)", "cases(-1)");
             e.life();
             e.asked("cases(1)", 0);
+            // Of six: 30 drinks by 40 drops, 5 lies of one with nine dents.
+            e.life(Lives.full());
+            e.asked("cases(20)", 0);
+            e.asked("cases(14)", 1);
+            e.asked("cases(1)", 2);
         });
     }
 
@@ -279,7 +293,9 @@ final class TermsFourEdges {
             e.asked("heaviest()", 0);
             e.then("one(0, 0, 0)", "one(0, 0, 0)");
             e.asked("heaviest()", 0);
-            e.then("weep(0, 2)");
+            e.then("weep(0, 1)");
+            e.asked("heaviest()", 3);
+            e.then("weep(0, 1)");
             e.asked("heaviest()", 3);
             e.then("deed(1, 2, 1)");
             e.asked("heaviest()", 3);

@@ -329,20 +329,27 @@ final class TermsOneEdges {
             e.in("drops(0, 0, 0)", 1);
         });
         e.test(PART, "(DROPS, DENTS, COINS, THE STANDARD, DAY, X, BOOK are as ahead of it;", () -> {
-            List<String> ahead = Lives.by("errs 0;", "deed(0, 2, 50)", "image()");
+            List<String> ahead = Lives.rich("deed(2, 2, 99)", "weep(2, 9)");
             e.life(ahead);
-            e.in("pour(0, 2)", 30);
-            e.in("undo()", 1);
-            e.looksAs(ahead);
-            for (String step : List.of("deed(0, 2, 99)", "weep(0, 9)", "bend(0)", "shrink(7)", "day(1)",
-                "centuries(99, 40)")) {
+            long steps = e.answer("about(3)");
+            for (String step : List.of("deed(2, 2, 99)", "weep(2, 9)", "wash(2, 2, 9)", "pour(2, 2)", "bend(4)", "shrink(7)",
+                "day(1)", "centuries(99, 40)")) {
                 e.life(ahead);
                 e.then(step);
-                e.in("undo()", 1);
+                e.in("about(3)", steps + 1);
+                e.in("undo()", steps);
                 e.looksAs(ahead);
             }
-            e.out("undo()", 0);
-            e.out("drops(0, 2, 0)", 0);
+            // A full BOOK: the fine that went out of it for another is there again.
+            e.life(Lives.fines(30));
+            e.then("deed(0, 2, 99)");
+            e.in("pour(0, 2)", 79);
+            e.in("book(0, 3)", 2);
+            e.then("undo()");
+            e.out("book(-1, 0)", 30);
+            e.out("book(0, 3)", 1);
+            e.out("book(29, 3)", 30);
+            e.out("drops(0, 2, 0)", 99);
         });
         e.test(PART, "PEOPLE told since are as told; BRIMS stay; THE STANDARD told since is as told: it is so in all of "
             + "these).", () -> {

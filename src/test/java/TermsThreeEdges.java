@@ -68,6 +68,9 @@ final class TermsThreeEdges {
             e.asked("firstBrim(0, 2, 1)", NONE);
             e.asked("firstBrim(0, 0, 99)", 0);
             e.refused(NONE, "firstBrim(0, 2, 0)", "firstBrim(0, 2, 100)", "firstBrim(0, 3, 99)", "firstBrim(0, -1, 99)");
+            e.then("deed(0, 2, 50)");
+            e.asked("firstBrim(0, 2, 1)", 0);
+            e.refused(NONE, "firstBrim(0, 2, 0)", "firstBrim(0, 2, -1)");
         });
         e.test(PART, "in how many DAYS (0: now, behind the first; 60 at most) one is first OVER in it behind the doing; "
             + "none.", () -> {
@@ -116,6 +119,10 @@ final class TermsThreeEdges {
             e.asked("within(0)", 2);
             e.then("plan(-1, 0)", "plan(0, 61)");
             e.out("within(0)", 0);
+            e.life("one(0, 0, 0)", "deed(0, 2, 19)", "plan(2, 1)");
+            e.asked("within(0)", 1);
+            e.then("deed(0, 2, 1)");
+            e.out("within(0)", 0);
             // One more DEED is more than many more DROPS.
             e.life("one(0, 0, 0)", "plan(2, 20)", "plan(2, 1)", "plan(2, 2)");
             e.asked("within(0)", 6);
@@ -134,8 +141,11 @@ final class TermsThreeEdges {
 
     private void within() {
         e.test(PART, "of like ones most DROPS, then the lowest set.", () -> {
-            e.life("one(0, 0, 0)", "plan(2, 11)", "plan(2, 12)", "plan(2, 10)");
-            e.asked("within(0)", 2);
+            for (int kind = 0; kind <= 2; kind++) {
+                String plan = "plan(" + kind + ", ";
+                e.life("one(0, 0, 0)", "brim(" + kind + ", 1)", plan + "11)", plan + "12)", plan + "10)");
+                e.asked("within(0)", 2);
+            }
             e.then("plan(-1, 0)", "plan(2, 11)", "plan(2, 11)", "plan(2, 10)");
             e.out("within(0)", 1);
             e.then("plan(-1, 0)", "plan(2, 10)", "plan(2, 11)", "plan(2, 9)", "plan(2, 10)");
@@ -239,6 +249,16 @@ final class TermsThreeEdges {
             e.out("round(0)", 2);
             e.out("round(1)", 3);
             e.out("round(2)", 1);
+            // Six times 99: the longest that the shortest can be.
+            e.life(Edges.times(6, "one(0, 0, 0)"));
+            for (int one = 0; one < 6; one++) {
+                for (int other = 0; other < one; other++) {
+                    e.then("way(" + one + ", " + other + ", 99)");
+                }
+            }
+            e.asked("round(-1)", 594);
+            e.asked("round(0)", 1);
+            e.asked("round(4)", 5);
         });
         e.test(PART, "how long, the i-th house behind the first (without or with one house: 0).", () -> {
             e.asked("round(-1)", 0);

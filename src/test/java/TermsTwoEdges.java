@@ -17,6 +17,9 @@ final class TermsTwoEdges {
         tests.tokens();
         tests.signs();
         tests.clauses();
+        tests.names();
+        tests.asking();
+        tests.choosing();
         tests.sums();
         tests.clipping();
         tests.faults();
@@ -127,6 +130,10 @@ final class TermsTwoEdges {
             bad("fine if 1<>1 then 5 else 6 end;", 1, 10);
             bad("fine if 1>==1 then 5 else 6 end;", 1, 11);
             bad("fine 1;;", 1, 7);
+            bad("fine if 1<=", 1, 11);
+            bad("fine (1;;", 1, 7);
+            bad("fine 1);", 1, 6);
+            bad("fine ?;", 1, 5);
         });
     }
 
@@ -147,12 +154,77 @@ final class TermsTwoEdges {
             bad("errs 1;day 1;errs 1;", 4, 13);
             bad("fine 1;dries 1;fine 1;", 4, 15);
         });
-        e.test(PART, "coins in errs, fine; tears in errs, fine.", () -> {
+    }
+
+    private void names() {
+        e.test(PART, "NAMES: day, who (its number), stuff, dent, room, kind, drops (of that KIND) in all; coins in errs, fine; "
+            + "tears in errs, fine.", () -> {
+            String[] names = {"day", "who", "stuff", "dent", "room", "kind", "drops", "coins", "tears"};
+            int[] values = {3, 1, 2, 9, 11, 1, 12, 77, 5};
+            for (int i = 0; i < names.length; i++) {
+                e.life("one(0, 0, 0)", "one(2, 9, 77)", "day(3)", "deed(1, 1, 12)", "weep(1, 5)",
+                    "tape fine " + names[i] + ";", "text()", "by(0)");
+                e.in("drops(1, 1, 3)", values[i]);
+            }
             good("errs coins;fine coins;");
             good("errs tears;fine tears;");
             good("dries day+who+stuff+dent+room+kind+drops;");
             bad("dries coins;", 5, 6);
             bad("dries 1+tears;", 5, 8);
+            bad("fine purse;", 1, 5);
+        });
+    }
+
+    /** Whether the ASK is so. */
+    private void asks(String ask, boolean so) {
+        inside("if " + ask + " then 5 else 6 end", so ? 5 : 6);
+    }
+
+    private void asking() {
+        e.test(PART, "ASK: not ASK, or SUM one of < <= > >= = # (unlike) SUM.", () -> {
+            String[] signs = {"<", "<=", ">", ">=", "=", "#"};
+            boolean[][] so = {{true, false, false}, {true, true, false}, {false, false, true}, {false, true, true},
+                {false, true, false}, {true, false, true}};
+            for (int i = 0; i < signs.length; i++) {
+                for (int left = 1; left <= 3; left++) {
+                    asks(left + signs[i] + "2", so[i][left - 1]);
+                    asks("not " + left + signs[i] + "2", !so[i][left - 1]);
+                    asks("not not " + left + signs[i] + "2", so[i][left - 1]);
+                }
+            }
+            bad("fine if 1 then 1 else 1 end;", 1, 10);
+            bad("fine if 1 less 2 then 1 else 1 end;", 1, 10);
+            bad("fine if nothing 1=1 then 1 else 1 end;", 1, 8);
+            bad("fine if (1=1) then 1 else 1 end;", 1, 10);
+            bad("fine if 1=1=1 then 1 else 1 end;", 1, 11);
+        });
+        e.test(PART, "EITHER: BOTH {or BOTH}. BOTH: ASK {and ASK}.", () -> {
+            String[] sides = {"1=2", "1=1"};
+            for (int left = 0; left <= 1; left++) {
+                for (int right = 0; right <= 1; right++) {
+                    asks(sides[left] + " or " + sides[right], left + right > 0);
+                    asks(sides[left] + " and " + sides[right], left + right > 1);
+                }
+            }
+            asks("1=1 or 1=1 and 1=2", true);
+            asks("1=2 and 1=2 or 1=1", true);
+            asks("not 1=1 or 1=1", true);
+            asks("not 1=2 and 1=2", false);
+            bad("fine if 1=1 or then 1 else 1 end;", 1, 15);
+            bad("fine if and 1=1 then 1 else 1 end;", 1, 8);
+        });
+    }
+
+    private void choosing() {
+        e.test(PART, "or and and look at both sides always, of if just the SUM that is chosen is asked.", () -> {
+            inside("if 1=1 or 1/0=1 then 5 else 6 end", 5);
+            inside("1+if 1=1 then 5 else 6/0 end*2+3", 14);
+            inside("1+if 1=2 then 9999*9999 else 6 end*2+3", 16);
+            inside("if if 1=2 then 1 else 2 end=2 then if 1=1 then 7 else 8 end else 9 end+if 1=2 then 10 else 20 end", 27);
+            outside("if 1=2 then 7 else if 1=2 then 8 else 9 end end-1", 8);
+            bad("fine if 1=1 then 1;", 1, 18);
+            bad("fine if 1=1 then 1 end;", 1, 19);
+            bad("fine if 1=1 then 1 else 10000 end;", 2, 24);
         });
     }
 
@@ -168,18 +240,18 @@ final class TermsTwoEdges {
             inside("brims 0", 3);
             inside("brims 1", 2);
             inside("brims 2", 1);
-            outside("brims 3", 0);
-            outside("brims -1", 0);
-            outside("brims (9999*9999)", 0);
+            outside("10+brims 3", 10);
+            outside("10+brims -1", 10);
+            outside("10+brims (9999*9999)", 10);
         });
         e.test(PART, "/ cuts towards 0, by 0 it is 0;", () -> {
             inside("7/2", 3);
             inside("10+-7/2", 7);
             inside("10+7/-2", 7);
             inside("5/1", 5);
-            outside("5/0", 0);
+            outside("10+5/0", 10);
             outside("10+-5/0", 10);
-            outside("0/0", 0);
+            outside("10+0/0", 10);
         });
     }
 
@@ -336,6 +408,9 @@ final class TermsTwoEdges {
             e.refused(0, "by(2)", "by(-2)");
             e.in("by(-1)", 1);
             e.out("drops(0, 0, 1)", 1);
+            e.then("tape errs 2;", "text()", "tape dries 13;", "text()", "by(3)");
+            e.in("drops(0, 0, 1)", 13);
+            e.refused(0, "by(4)");
         });
         e.test(PART, "dries: 0 at least, 99 at most; without: 1, of wood 3.", () -> {
             law("dries 0;", 1, 0, true);
@@ -417,7 +492,8 @@ final class TermsTwoEdges {
     }
 
     private void playedToItsEnd() {
-        e.test(PART, "(of so many DAYS those that can pass do): its number among all CLAUSES (from 0); what was done stays.", () -> {
+        e.test(PART, "(of so many DAYS those that can pass do): its number among all CLAUSES (from 0); what was done "
+            + "stays.", () -> {
             e.life("one(0, 0, 9)", "tape dries 1;do 5 of 0 by 0;wash 6 of 0 by 0;do 7 of 1 by 0;", "text()");
             e.out("played(0)", 2);
             e.out("drops(0, 0, 0)", 5);
