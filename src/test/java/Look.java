@@ -1,14 +1,16 @@
 import java.util.ArrayList;
 import java.util.List;
 
-/** All that can be seen of a run of calls: each way of looking has an object of its own, led through the run. */
+/** What can be seen of a run of calls: each way of looking has an object of its own, led through the run. */
 final class Look {
     private interface Eye {
         void look(Look at);
     }
 
     private static final Eye[] EYES = {
-        Look::now, Look::book, Look::told, Look::tape, Look::stepsInAll, Look::stepsByDrops, Look::image, Look::texts
+        Look::now, Look::book, Look::told, Look::tape, Look::steps, Look::image, Look::texts, Look::ways,
+        look -> look.stepsOf(0), look -> look.stepsOf(1), look -> look.stepsOf(2), look -> look.stepsOf(3),
+        look -> look.stepsOf(4), look -> look.stepsOf(5)
     };
 
     private final Run run;
@@ -124,29 +126,50 @@ final class Look {
         dropsOf(0, 1, 3);
     }
 
-    private void stepsInAll() {
+    private void steps() {
         for (int i = 0; i <= 30; i++) {
             long left = see("undo()");
             seeEach("is", 0, 2);
             see("book(-1, 0)");
             see("fined(-1)");
-            see("of(0, 1)");
-            see("of(0, 2)");
-            see("of(1, 1)");
-            see("of(1, 2)");
             if (left <= 0) {
                 break;
             }
         }
     }
 
-    private void stepsByDrops() {
+    private void stepsOf(int one) {
         for (int i = 0; i <= 30; i++) {
             long left = see("undo()");
-            dropsOf(0, 0, 0);
-            dropsOf(1, 0, 0);
+            see("of(" + one + ", 1)");
+            see("of(" + one + ", 2)");
+            dropsOf(one, 0, 0);
             if (left <= 0) {
                 break;
+            }
+        }
+    }
+
+    /** Of each two houses: all other ways are told so that the round goes by their way. */
+    private void ways() {
+        int people = (int) run.call("about(0)");
+        run.call("image()");
+        for (int one = 1; one < people; one++) {
+            for (int other = 0; other < one; other++) {
+                run.call("back()");
+                int third = 0;
+                while (third == one || third == other) {
+                    third++;
+                }
+                for (int i = 1; i < people; i++) {
+                    for (int j = 0; j < i; j++) {
+                        boolean far = (i == one || j == one) && i != third && j != third;
+                        if (i != one || j != other) {
+                            run.call("way(" + i + ", " + j + ", " + (far ? 99 : 1) + ")");
+                        }
+                    }
+                }
+                seen.add("way from " + one + " to " + other + ": " + run.call("round(-1)"));
             }
         }
     }
